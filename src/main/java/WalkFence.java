@@ -1,3 +1,5 @@
+import java.util.Arrays;
+
 /** Fences that walk down a slope to the sea. ../shared/DOC.md says what each call answers. */
 public final class WalkFence {
 
@@ -36,8 +38,7 @@ public final class WalkFence {
     private static final int NO_BYTE = 255;
 
     /** The words by number; the first OWN_WORDS of them can't be NAMES. */
-    private static final String WORDS = "slope by steep iron fence row age stake walks roots tide year left number "
-            + "field cut first below or and not all min max last often total most least ";
+    private static final String WORDS = "slope by steep iron fence row age stake walks roots tide year left number field cut first below or and not all min max last often total most least ";
     private static final int OWN_WORDS = 24;
     private static final int SLOPE = 0;
     private static final int BY = 1;
@@ -98,9 +99,9 @@ public final class WalkFence {
     private static final int BELOW_THAT = 30002;
 
     private final Tape tape = new Tape();
-    private final Reader reader = new Reader(tape);
     private Slope slope = new Slope();
     private Slope draft = new Slope();
+    private final Reader reader = new Reader(tape, draft);
     private final Lay now = new Lay();
     private final Walker walker = new Walker(slope);
     private final Foresight foresight = new Foresight(now, walker);
@@ -144,10 +145,8 @@ public final class WalkFence {
         Slope told = draft;
         draft = slope;
         slope = told;
-        walker.takeSlope(slope);
-        now.takeFrom(slope.start);
-        log.clear();
-        history.clear();
+        walker.slope = slope;
+        beginAnew(slope.start);
         seen.count = 0;
         return slope.statements;
     }
@@ -213,7 +212,11 @@ public final class WalkFence {
 
     public int walks(int fence, int column) {
         int row = now.rowOf(fence, column);
-        return row == GONE ? NONE : walker.paces(now, fence, column, row);
+        if (row == GONE) {
+            return NONE;
+        }
+        walker.face(now, fence);
+        return walker.paces(column, row);
     }
 
     public int kept(int k, int what) {
@@ -273,9 +276,9 @@ public final class WalkFence {
         }
         foresight.findIron(fence, n);
         switch (what) {
-            case 0: return foresight.foundColumn;
-            case 1: return foresight.foundRow;
-            case 2: return foresight.foundColumn == NONE ? NONE : foresight.found;
+            case 0: return foresight.ironColumn;
+            case 1: return foresight.ironRow;
+            case 2: return foresight.ironColumn == NONE ? NONE : foresight.ironField;
             default: return NONE;
         }
     }
@@ -297,9 +300,9 @@ public final class WalkFence {
         if (!slope.isTold()) {
             return NONE;
         }
-        foresight.countFits(seen, aheadAtMost(SEEN_YEARS));
+        foresight.findFits(seen, aheadAtMost(SEEN_YEARS));
         switch (what) {
-            case 0: return foresight.found;
+            case 0: return foresight.fitting;
             case 1: return foresight.firstFit;
             case 2: return foresight.lastFit;
             default: return NONE;
@@ -312,9 +315,9 @@ public final class WalkFence {
         }
         foresight.findTelling(seen, aheadAtMost(SEEN_YEARS));
         switch (what) {
-            case 0: return foresight.foundColumn;
-            case 1: return foresight.foundRow;
-            case 2: return foresight.foundColumn == NONE ? NONE : foresight.found;
+            case 0: return foresight.tellingColumn;
+            case 1: return foresight.tellingRow;
+            case 2: return foresight.tellingColumn == NONE ? NONE : foresight.mostLeft;
             default: return NONE;
         }
     }
@@ -324,7 +327,7 @@ public final class WalkFence {
             refuse(2);
             return false;
         }
-        history.keep(now, log);
+        beginAct();
         now.plant(fence, slope.columns);
         return true;
     }
@@ -334,7 +337,7 @@ public final class WalkFence {
             refuse(2);
             return false;
         }
-        history.keep(now, log);
+        beginAct();
         now.cuts |= 1 << fence;
         return true;
     }
@@ -343,7 +346,7 @@ public final class WalkFence {
         if (!slope.hasPlace(column, row) || now.hasPost(column, row) || now.countPosts() >= POSTS) {
             return refuse(2);
         }
-        history.keep(now, log);
+        beginAct();
         now.drive(column, row);
         return now.countPosts();
     }
@@ -352,7 +355,7 @@ public final class WalkFence {
         if (!slope.isTold() || n < 1 || n > ACT_YEARS) {
             return refuse(3);
         }
-        history.keep(now, log);
+        beginAct();
         int went = 0;
         for (int i = 0; i < n; i++) {
             went += walker.passYear(now, log);
@@ -364,7 +367,7 @@ public final class WalkFence {
         if (!slope.isTold() || n < 1 || n > ACT_YEARS) {
             return refuse(3);
         }
-        history.keep(now, log);
+        beginAct();
         int tides = 0;
         for (int i = 0; i < n; i++) {
             if (draw(100) < slope.tide && slope.fences > 0) {
@@ -381,6 +384,7 @@ public final class WalkFence {
             refuse(4);
             return false;
         }
+        foresight.forget();
         return true;
     }
 
@@ -419,14 +423,25 @@ public final class WalkFence {
             refuse(5);
             return false;
         }
-        now.takeFrom(foresight.lay);
-        log.clear();
-        history.clear();
+        beginAnew(foresight.lay);
         return true;
     }
 
     public int status(int what) {
         return what >= 0 && what < REFUSALS ? refused[what] : NONE;
+    }
+
+    /** All lies as told; nothing is KEPT or can be undone. */
+    private void beginAnew(Lay told) {
+        now.takeFrom(told);
+        log.clear();
+        history.clear();
+        foresight.forget();
+    }
+
+    private void beginAct() {
+        history.keep(now, log);
+        foresight.forget();
     }
 
     private int refuse(int kind) {
@@ -462,7 +477,7 @@ public final class WalkFence {
 
     private int draw(int m) {
         // The wrap-around of int loses nothing: only the lowest 31 bits count.
-        draws = (1103515245 * draws + 12345) & Integer.MAX_VALUE;
+        draws = (1103515245 * draws + 12345) & 0x7fffffff;
         return m > 0 ? draws / 64 % m : 0;
     }
 
@@ -545,12 +560,8 @@ public final class WalkFence {
             rootsFrom = 0;
             rootsTo = 0;
             start.clear();
-            for (int c = 0; c < COLUMNS; c++) {
-                steep[c] = 1;
-            }
-            for (int k = 0; k < names.length; k++) {
-                names[k] = 0;
-            }
+            Arrays.fill(steep, 1);
+            Arrays.fill(names, 0);
         }
 
         boolean isTold() {
@@ -582,23 +593,15 @@ public final class WalkFence {
         final int[] stakes = new int[FENCES * COLUMNS];
 
         Lay() {
-            for (int k = 0; k < stakes.length; k++) {
-                stakes[k] = GONE;
-            }
+            Arrays.fill(stakes, GONE);
         }
 
         void clear() {
             year = 0;
             cuts = 0;
-            for (int f = 0; f < FENCES; f++) {
-                ages[f] = 0;
-            }
-            for (int c = 0; c < COLUMNS; c++) {
-                posts[c] = 0;
-            }
-            for (int k = 0; k < stakes.length; k++) {
-                stakes[k] = GONE;
-            }
+            Arrays.fill(ages, 0);
+            Arrays.fill(posts, 0);
+            Arrays.fill(stakes, GONE);
         }
 
         void takeFrom(Lay other) {
@@ -607,6 +610,13 @@ public final class WalkFence {
             System.arraycopy(other.ages, 0, ages, 0, FENCES);
             System.arraycopy(other.posts, 0, posts, 0, COLUMNS);
             System.arraycopy(other.stakes, 0, stakes, 0, FENCES * COLUMNS);
+        }
+
+        /** One FENCE's stakes alone; its FIELD asks no more. */
+        void takeStakes(Lay other, int fence) {
+            if (fence >= 0 && fence < FENCES) {
+                System.arraycopy(other.stakes, fence * COLUMNS, stakes, fence * COLUMNS, COLUMNS);
+            }
         }
 
         int rowOf(int fence, int column) {
@@ -786,21 +796,17 @@ public final class WalkFence {
         }
     }
 
-    /** How all lay ahead of one ACT. */
-    private static final class Past {
-        final Lay lay = new Lay();
-        final Log log = new Log();
-    }
-
-    /** The ACTS that can be undone: all their rows are made once and used in a ring. */
+    /** How all lay ahead of each ACT that can be undone, in a ring. */
     private static final class History {
-        final Past[] pasts = new Past[UNDOABLE];
+        final Lay[] lays = new Lay[UNDOABLE];
+        final Log[] logs = new Log[UNDOABLE];
         int next;
         int count;
 
         History() {
             for (int k = 0; k < UNDOABLE; k++) {
-                pasts[k] = new Past();
+                lays[k] = new Lay();
+                logs[k] = new Log();
             }
         }
 
@@ -809,31 +815,25 @@ public final class WalkFence {
         }
 
         void keep(Lay lay, Log log) {
-            Past past = pastAt(next);
-            if (past == null) {
+            if (next < 0 || next >= UNDOABLE) {
                 return;
             }
-            past.lay.takeFrom(lay);
-            past.log.takeFrom(log);
+            lays[next].takeFrom(lay);
+            logs[next].takeFrom(log);
             next = (next + 1) % UNDOABLE;
             count = Math.min(UNDOABLE, count + 1);
         }
 
         boolean giveBack(Lay lay, Log log) {
             int latest = (next + UNDOABLE - 1) % UNDOABLE;
-            Past past = pastAt(latest);
-            if (count <= 0 || past == null) {
+            if (count <= 0 || latest < 0) {
                 return false;
             }
-            lay.takeFrom(past.lay);
-            log.takeFrom(past.log);
+            lay.takeFrom(lays[latest]);
+            log.takeFrom(logs[latest]);
             next = latest;
             count--;
             return true;
-        }
-
-        private Past pastAt(int k) {
-            return k >= 0 && k < UNDOABLE ? pasts[k] : null;
         }
     }
 
@@ -984,14 +984,13 @@ public final class WalkFence {
         final int[] waiting = new int[MOST_WAITING];
         /** What each PART is, by the number of its word. */
         final int[] parts = new int[OWN_WORDS];
+        Lay lay;
 
-        void put(int word, int value) {
-            if (word >= 0 && word < OWN_WORDS) {
-                parts[word] = value;
-            }
+        Reckoner(Lay lay) {
+            this.lay = lay;
         }
 
-        int run(int[] steps, int from, int to, Lay lay) {
+        int run(int[] steps, int from, int to) {
             int top = 0;
             for (int i = Math.max(0, from); i < to && i < steps.length; i++) {
                 int step = steps[i];
@@ -999,7 +998,7 @@ public final class WalkFence {
                     if (top < 1) {
                         return 0;
                     }
-                    waiting[top - 1] = single(step, waiting[top - 1], lay);
+                    waiting[top - 1] = single(step, waiting[top - 1]);
                 } else if (step >= PAIRS_FROM) {
                     if (top < 2) {
                         return 0;
@@ -1021,7 +1020,7 @@ public final class WalkFence {
             return word >= 0 && word < OWN_WORDS ? parts[word] : 0;
         }
 
-        private int single(int step, int a, Lay lay) {
+        private int single(int step, int a) {
             switch (step) {
                 case HOLDS_NOT: return a == 0 ? 1 : 0;
                 case ROW_IN: return lay.rowOf(parts[NUMBER], a);
@@ -1052,26 +1051,29 @@ public final class WalkFence {
 
     /** Lets YEARS pass by the rules of the slope. */
     private static final class Walker {
-        final Reckoner reckoner = new Reckoner();
+        final Reckoner reckoner;
         Slope slope;
 
         Walker(Slope slope) {
             this.slope = slope;
+            reckoner = new Reckoner(slope.start);
         }
 
-        void takeSlope(Slope told) {
-            slope = told;
+        /** Ahead of paces(): what is one for all stakes of a FENCE. */
+        void face(Lay lay, int fence) {
+            reckoner.lay = lay;
+            reckoner.parts[NUMBER] = fence;
+            reckoner.parts[AGE] = lay.ageOf(fence);
+            reckoner.parts[YEAR] = lay.year;
         }
 
         /** How many rows a stake in that row would walk, were nothing in its way. */
-        int paces(Lay lay, int fence, int column, int row) {
+        int paces(int column, int row) {
             int sum = slope.steepOf(column);
             if (slope.walksTo > slope.walksFrom) {
-                reckoner.put(AGE, lay.ageOf(fence));
-                reckoner.put(STEEP, sum);
-                reckoner.put(YEAR, lay.year);
-                reckoner.put(ROW, row);
-                sum = reckoner.run(slope.steps, slope.walksFrom, slope.walksTo, lay);
+                reckoner.parts[STEEP] = sum;
+                reckoner.parts[ROW] = row;
+                sum = reckoner.run(slope.steps, slope.walksFrom, slope.walksTo);
             }
             return Math.max(0, Math.min(FARTHEST, sum));
         }
@@ -1100,12 +1102,13 @@ public final class WalkFence {
 
         private int walkFence(Lay lay, int fence, Log log) {
             int went = 0;
+            face(lay, fence);
             for (int c = 0; c < slope.columns; c++) {
                 int row = lay.rowOf(fence, c);
                 if (row == GONE) {
                     continue;
                 }
-                int to = landing(lay.postsOf(c), row, paces(lay, fence, c, row));
+                int to = landing(lay.postsOf(c), row, paces(c, row));
                 lay.putStake(fence, c, to);
                 if (to == GONE) {
                     went++;
@@ -1118,15 +1121,9 @@ public final class WalkFence {
         }
 
         private int landing(int posts, int row, int paces) {
-            if ((posts >> row & 1) != 0) {
-                return row;
-            }
-            int to = row + paces;
-            for (int r = row + 1; r <= to && r < slope.rows; r++) {
-                if ((posts >> r & 1) != 0) {
-                    return r;
-                }
-            }
+            // From the stake's own row on, so that a POST there holds it.
+            int ahead = posts >> row;
+            int to = row + (ahead == 0 ? paces : Math.min(paces, Integer.numberOfTrailingZeros(ahead)));
             return to < slope.rows ? to : GONE;
         }
 
@@ -1134,56 +1131,66 @@ public final class WalkFence {
             if (slope.rootsTo <= slope.rootsFrom) {
                 return false;
             }
-            reckoner.put(AGE, lay.ageOf(fence));
-            reckoner.put(STEEP, slope.steepOf(0));
-            reckoner.put(YEAR, lay.year);
-            reckoner.put(LEFT, lay.leftOf(fence));
-            return reckoner.run(slope.steps, slope.rootsFrom, slope.rootsTo, lay) != 0;
+            face(lay, fence);
+            reckoner.parts[STEEP] = slope.steepOf(0);
+            reckoner.parts[LEFT] = lay.leftOf(fence);
+            return reckoner.run(slope.steps, slope.rootsFrom, slope.rootsTo) != 0;
         }
 
         /** What the question, whose steps are in asked, is for one FENCE. */
         int reckonQuestion(Slope asked, Lay lay, int fence) {
-            reckoner.put(NUMBER, fence);
-            reckoner.put(AGE, lay.ageOf(fence));
-            reckoner.put(LEFT, lay.leftOf(fence));
-            reckoner.put(FIELD, lay.fieldOf(fence, slope.rows));
-            reckoner.put(CUT, lay.isCut(fence) ? 1 : 0);
-            reckoner.put(YEAR, lay.year);
-            return reckoner.run(asked.steps, asked.walksFrom, asked.walksTo, lay);
+            face(lay, fence);
+            reckoner.parts[LEFT] = lay.leftOf(fence);
+            reckoner.parts[FIELD] = lay.fieldOf(fence, slope.rows);
+            reckoner.parts[CUT] = lay.isCut(fence) ? 1 : 0;
+            return reckoner.run(asked.steps, asked.walksFrom, asked.walksTo);
         }
     }
 
-    /** What comes AHEAD, tried on a lay of its own. */
+    /** What comes AHEAD, tried on lays of its own. */
     private static final class Foresight {
-        static final int SETS = 1 << FENCES;
         /** Whose a place can be: a FENCE's, or the MOOR. */
         static final int OWNERS = FENCES + 1;
 
         final Lay now;
         final Walker walker;
         final Lay lay = new Lay();
-        final int[] fields = new int[SETS * FENCES];
-        final int[] years = new int[COLUMNS * ROWS * OWNERS];
-        int foundColumn;
-        int foundRow;
-        int found;
+        final Lay uncut = new Lay();
+        final Lay cut = new Lay();
+        /** For each column a bit for each row that a stake may come to. */
+        final int[] trodden = new int[COLUMNS];
+        final int[] fits = new int[COLUMNS * ROWS * OWNERS];
+        int ironFence = NONE;
+        int ironYears;
+        int ironColumn;
+        int ironRow;
+        int ironField;
+        int fitting;
         int firstFit;
         int lastFit;
+        int tellingColumn;
+        int tellingRow;
+        int mostLeft;
 
         Foresight(Lay now, Walker walker) {
             this.now = now;
             this.walker = walker;
         }
 
+        /** What was found for the lay of now does not hold any more. */
+        void forget() {
+            ironFence = NONE;
+        }
+
         Lay goAhead(int n) {
             lay.takeFrom(now);
-            passYears(n);
+            passYears(lay, n);
             return lay;
         }
 
-        private void passYears(int n) {
+        private void passYears(Lay trial, int n) {
             for (int i = 0; i < n; i++) {
-                walker.passYear(lay, null);
+                walker.passYear(trial, null);
             }
         }
 
@@ -1213,42 +1220,74 @@ public final class WalkFence {
         }
 
         void findIron(int fence, int n) {
-            foundColumn = NONE;
-            foundRow = NONE;
-            found = goAhead(n).fieldOf(fence, walker.slope.rows);
-            for (int c = 0; c < walker.slope.columns; c++) {
+            // Column, row and FIELD are asked for one by one, and to find them is dear.
+            if (fence == ironFence && n == ironYears) {
+                return;
+            }
+            ironFence = fence;
+            ironYears = n;
+            ironColumn = NONE;
+            ironRow = NONE;
+            tread(n);
+            ironField = lay.fieldOf(fence, walker.slope.rows);
+            for (int c = 0; c < walker.slope.columns && c < COLUMNS; c++) {
+                // Where no stake comes, a POST changes nothing.
+                int worth = trodden[c] & ~now.postsOf(c);
                 for (int r = 0; r < walker.slope.rows; r++) {
-                    if (!now.hasPost(c, r)) {
-                        tryIron(fence, n, c, r);
+                    if ((worth >> r & 1) != 0) {
+                        tryIron(c, r);
                     }
                 }
             }
         }
 
-        private void tryIron(int fence, int n, int column, int row) {
+        /** Goes n YEARS AHEAD, noting in trodden where stakes stand, or could come by their walk. */
+        private void tread(int n) {
+            Arrays.fill(trodden, 0);
+            lay.takeFrom(now);
+            for (int i = 0; i < n; i++) {
+                for (int f = 0; f < walker.slope.fences; f++) {
+                    treadBy(f);
+                }
+                walker.passYear(lay, null);
+            }
+        }
+
+        private void treadBy(int fence) {
+            walker.face(lay, fence);
+            for (int c = 0; c < walker.slope.columns && c < COLUMNS; c++) {
+                int row = lay.rowOf(fence, c);
+                if (row != GONE) {
+                    int reach = (2 << walker.paces(c, row)) - 1;
+                    trodden[c] |= reach << row;
+                }
+            }
+        }
+
+        private void tryIron(int column, int row) {
             lay.takeFrom(now);
             lay.drive(column, row);
-            passYears(n);
-            int field = lay.fieldOf(fence, walker.slope.rows);
-            if (field > found) {
-                found = field;
-                foundColumn = column;
-                foundRow = row;
+            passYears(lay, ironYears);
+            int field = lay.fieldOf(ironFence, walker.slope.rows);
+            if (field > ironField) {
+                ironField = field;
+                ironColumn = column;
+                ironRow = row;
             }
         }
 
         int findRest(int n) {
+            // No FENCE walks by what another one does, so two runs have the stakes of every set.
             int sets = 1 << walker.slope.fences;
-            for (int set = 0; set < sets && set < SETS; set++) {
-                lay.takeFrom(now);
-                lay.cuts = set;
-                passYears(n);
-                for (int f = 0; f < FENCES; f++) {
-                    fields[set * FENCES + f] = lay.fieldOf(f, walker.slope.rows);
-                }
-            }
+            lay.takeFrom(now);
+            uncut.takeFrom(now);
+            uncut.cuts = 0;
+            passYears(uncut, n);
+            cut.takeFrom(now);
+            cut.cuts = sets - 1;
+            passYears(cut, n);
             int best = NONE;
-            for (int set = 0; set < sets && set < SETS; set++) {
+            for (int set = 0; set < sets; set++) {
                 boolean fewer = best == NONE || Integer.bitCount(set) < Integer.bitCount(best);
                 if (fewer && isAtRest(set)) {
                     best = set;
@@ -1259,88 +1298,72 @@ public final class WalkFence {
 
         private boolean isAtRest(int set) {
             for (int f = 0; f < walker.slope.fences; f++) {
-                int otherwise = set ^ 1 << f;
-                if (fieldBy(otherwise, f) > fieldBy(set, f)) {
+                lay.takeStakes((set >> f & 1) != 0 ? cut : uncut, f);
+            }
+            for (int f = 0; f < walker.slope.fences; f++) {
+                boolean isCut = (set >> f & 1) != 0;
+                int field = lay.fieldOf(f, walker.slope.rows);
+                lay.takeStakes(isCut ? uncut : cut, f);
+                int otherwise = lay.fieldOf(f, walker.slope.rows);
+                lay.takeStakes(isCut ? cut : uncut, f);
+                if (otherwise > field) {
                     return false;
                 }
             }
             return true;
         }
 
-        private int fieldBy(int set, int fence) {
-            int k = set * FENCES + fence;
-            return k >= 0 && k < fields.length ? fields[k] : 0;
-        }
-
-        void countFits(Seen seen, int most) {
-            found = 0;
+        /** The YEARS AHEAD that fit what is SEEN; for each place whose it is in how many of them. */
+        void findFits(Seen seen, int most) {
+            fitting = 0;
             firstFit = NONE;
             lastFit = NONE;
+            Arrays.fill(fits, 0);
             lay.takeFrom(now);
             for (int n = 0; n <= most; n++) {
                 if (seen.isSo(lay)) {
-                    firstFit = found == 0 ? n : firstFit;
+                    firstFit = fitting == 0 ? n : firstFit;
                     lastFit = n;
-                    found++;
+                    fitting++;
+                    countOwners();
                 }
                 walker.passYear(lay, null);
+            }
+        }
+
+        private void countOwners() {
+            for (int c = 0; c < walker.slope.columns; c++) {
+                for (int r = 0; r < walker.slope.rows; r++) {
+                    int k = (c * ROWS + r) * OWNERS + lay.ownerOf(c, r) + 1;
+                    if (k >= 0 && k < fits.length) {
+                        fits[k]++;
+                    }
+                }
             }
         }
 
         void findTelling(Seen seen, int most) {
-            countOwners(seen, most);
-            foundColumn = NONE;
-            foundRow = NONE;
-            if (found == 0) {
-                return;
-            }
-            found = Integer.MAX_VALUE;
-            for (int c = 0; c < walker.slope.columns; c++) {
+            findFits(seen, most);
+            tellingColumn = NONE;
+            tellingRow = NONE;
+            mostLeft = fitting + 1;
+            for (int c = 0; c < walker.slope.columns && fitting > 0; c++) {
                 for (int r = 0; r < walker.slope.rows; r++) {
-                    int left = mostLeft(c, r);
-                    if (left < found) {
-                        found = left;
-                        foundColumn = c;
-                        foundRow = r;
+                    int left = leftBy(c, r);
+                    if (left < mostLeft) {
+                        mostLeft = left;
+                        tellingColumn = c;
+                        tellingRow = r;
                     }
                 }
             }
         }
 
-        /** For each place, in how many of the YEARS that fit it is whose; found: how many fit. */
-        private void countOwners(Seen seen, int most) {
-            found = 0;
-            for (int k = 0; k < years.length; k++) {
-                years[k] = 0;
-            }
-            lay.takeFrom(now);
-            for (int n = 0; n <= most; n++) {
-                if (seen.isSo(lay)) {
-                    found++;
-                    noteOwners();
-                }
-                walker.passYear(lay, null);
-            }
-        }
-
-        private void noteOwners() {
-            for (int c = 0; c < walker.slope.columns; c++) {
-                for (int r = 0; r < walker.slope.rows; r++) {
-                    int k = (c * ROWS + r) * OWNERS + lay.ownerOf(c, r) + 1;
-                    if (k >= 0 && k < years.length) {
-                        years[k]++;
-                    }
-                }
-            }
-        }
-
-        private int mostLeft(int column, int row) {
+        private int leftBy(int column, int row) {
             int left = 0;
             for (int owner = 0; owner < OWNERS; owner++) {
                 int k = (column * ROWS + row) * OWNERS + owner;
-                if (k >= 0 && k < years.length) {
-                    left = Math.max(left, years[k]);
-                }
+                left = k >= 0 && k < fits.length ? Math.max(left, fits[k]) : left;
             }
             return left;
         }
@@ -1369,8 +1392,9 @@ public final class WalkFence {
         private int parts;
         private int askers;
 
-        Reader(Tape tape) {
+        Reader(Tape tape, Slope draft) {
             this.tape = tape;
+            this.told = draft;
         }
 
         boolean readSlope(Slope draft) {
