@@ -815,7 +815,7 @@ public final class WalkFence {
         }
 
         void keep(Lay lay, Log log) {
-            if (next < 0 || next >= UNDOABLE) {
+            if (!hasRing(next)) {
                 return;
             }
             lays[next].takeFrom(lay);
@@ -826,7 +826,7 @@ public final class WalkFence {
 
         boolean giveBack(Lay lay, Log log) {
             int latest = (next + UNDOABLE - 1) % UNDOABLE;
-            if (count <= 0 || latest < 0) {
+            if (count <= 0 || !hasRing(latest)) {
                 return false;
             }
             lay.takeFrom(lays[latest]);
@@ -834,6 +834,10 @@ public final class WalkFence {
             next = latest;
             count--;
             return true;
+        }
+
+        private boolean hasRing(int k) {
+            return k >= 0 && k < UNDOABLE && lays[k] != null && logs[k] != null;
         }
     }
 

@@ -45,6 +45,7 @@ final class PromisesTest {
         questionFaults();
         images();
         imagesRefused();
+        largestImage();
         statuses();
         Due.end();
     }
@@ -152,6 +153,7 @@ final class PromisesTest {
         lineFault("fence ann row 0 age;", 1, 19);
         lineFault("fence ann row 0 age 0", 1, 21);
         lineFault("fence f row 0 age 0;stake row", 1, 26);
+        lineFault("fence f row 0 age 0;stake abcdefg", 1, 32);
         lineFault("fence f row 0 age 0;stake f row", 1, 28);
         lineFault("fence f row 0 age 0;stake f 0 age", 1, 30);
         lineFault("tide", 1, 4);
@@ -1039,6 +1041,9 @@ final class PromisesTest {
         low.years(1);
         question(low, "total row 0", -1);
         Due.is("the tape goes", low.end(1), false);
+        Due.slope(low, "slope 1 by 9;roots 1+1+1=2;walks 0;fence a row 0 age 0;");
+        Due.slope(low, "slope 1 by 9;fence a row 0 age 0;");
+        question(low, "total 1+2", 3);
         WalkFence bare = new WalkFence();
         Due.is("without a slope", Due.ask(bare, "often all"), NOTHING);
         Due.is("no FAULT", bare.fault(0), 0);
@@ -1181,6 +1186,23 @@ final class PromisesTest {
         Due.is("24 POSTS", on(wide, posts(24)), true);
         Due.is("has(4)", wide.has(4), 24);
         Due.is("25 POSTS", on(wide, posts(25)), false);
+    }
+
+    private static void largestImage() {
+        Due.about("promises 31, 33: the largest");
+        StringBuilder text = new StringBuilder("slope 6 by 30;");
+        for (char name = 'a'; name < 'g'; name++) {
+            text.append("fence ").append(name).append(" row 29 age 99;");
+        }
+        WalkFence x = Due.on(text.toString());
+        for (int k = 0; k < 24; k++) {
+            x.iron(k % 6, 29 - k / 6);
+        }
+        int[] bytes = imageOf(x);
+        Due.is("image()", bytes.length, 3 + 2 * 24 + 6 * 8 + 1);
+        Due.is("the last stake", bytes[98], 29);
+        Due.is("the last byte", bytes[99], checked(java.util.Arrays.copyOf(bytes, 99))[99]);
+        Due.is("on()", on(Due.on(text.toString()), bytes), true);
     }
 
     private static int[] posts(int n) {
