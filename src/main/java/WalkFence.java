@@ -988,11 +988,9 @@ public final class WalkFence {
         final int[] waiting = new int[MOST_WAITING];
         /** What each PART is, by the number of its word. */
         final int[] parts = new int[OWN_WORDS];
-        Lay lay;
-
-        Reckoner(Lay lay) {
-            this.lay = lay;
-        }
+        /** For a question: the FENCE's row in each column; in how many columns it lies BELOW each FENCE. */
+        final int[] rowIn = new int[COLUMNS];
+        final int[] belowThat = new int[FENCES];
 
         int run(int[] steps, int from, int to) {
             int top = 0;
@@ -1027,8 +1025,8 @@ public final class WalkFence {
         private int single(int step, int a) {
             switch (step) {
                 case HOLDS_NOT: return a == 0 ? 1 : 0;
-                case ROW_IN: return lay.rowOf(parts[NUMBER], a);
-                case BELOW_THAT: return lay.columnsBelow(parts[NUMBER], a);
+                case ROW_IN: return a >= 0 && a < COLUMNS ? rowIn[a] : GONE;
+                case BELOW_THAT: return a >= 0 && a < FENCES ? belowThat[a] : 0;
                 default: return 0;
             }
         }
@@ -1049,24 +1047,21 @@ public final class WalkFence {
                 case ONE_HOLDS: is = a | b; break;
                 default: is = 0; break;
             }
-            return (int) Math.max(-LIMIT, Math.min(LIMIT, is));
+            return is > LIMIT ? LIMIT : is < -LIMIT ? -LIMIT : (int) is;
         }
     }
 
     /** Lets YEARS pass by the rules of the slope. */
     private static final class Walker {
-        final Reckoner reckoner;
+        final Reckoner reckoner = new Reckoner();
         Slope slope;
 
         Walker(Slope slope) {
             this.slope = slope;
-            reckoner = new Reckoner(slope.start);
         }
 
         /** Ahead of paces(): what is one for all stakes of a FENCE. */
         void face(Lay lay, int fence) {
-            reckoner.lay = lay;
-            reckoner.parts[NUMBER] = fence;
             reckoner.parts[AGE] = lay.ageOf(fence);
             reckoner.parts[YEAR] = lay.year;
         }
@@ -1144,9 +1139,16 @@ public final class WalkFence {
         /** What the question, whose steps are in asked, is for one FENCE. */
         int reckonQuestion(Slope asked, Lay lay, int fence) {
             face(lay, fence);
+            reckoner.parts[NUMBER] = fence;
             reckoner.parts[LEFT] = lay.leftOf(fence);
             reckoner.parts[FIELD] = lay.fieldOf(fence, slope.rows);
             reckoner.parts[CUT] = lay.isCut(fence) ? 1 : 0;
+            for (int c = 0; c < COLUMNS; c++) {
+                reckoner.rowIn[c] = lay.rowOf(fence, c);
+            }
+            for (int f = 0; f < FENCES; f++) {
+                reckoner.belowThat[f] = lay.columnsBelow(fence, f);
+            }
             return reckoner.run(asked.steps, asked.walksFrom, asked.walksTo);
         }
     }
@@ -1271,7 +1273,9 @@ public final class WalkFence {
         private void tryIron(int column, int row) {
             lay.takeFrom(now);
             lay.drive(column, row);
-            passYears(lay, ironYears);
+            for (int i = 0; i < ironYears; i++) {
+                walker.passYear(lay, null);
+            }
             int field = lay.fieldOf(ironFence, walker.slope.rows);
             if (field > ironField) {
                 ironField = field;
@@ -1409,7 +1413,18 @@ public final class WalkFence {
             }
             draft.statements = 1;
             for (int count = 1; count < STATEMENTS && kind != END; count++) {
-                if (!statement()) {
+                boolean right;
+                switch (kind == WORD ? word : NONE) {
+                    case STEEP: right = steepLine(); break;
+                    case IRON: right = ironLine(); break;
+                    case FENCE: right = fenceLine(); break;
+                    case STAKE: right = stakeLine(); break;
+                    case WALKS: right = walksLine(); break;
+                    case ROOTS: right = rootsLine(); break;
+                    case TIDE: right = tideLine(); break;
+                    default: right = wrong(1, start); break;
+                }
+                if (!right || !need(';')) {
                     return false;
                 }
                 draft.statements++;
@@ -1518,7 +1533,7 @@ public final class WalkFence {
                     number++;
                     at = start;
                 } else {
-                    at = at >= start && tape.byteAt(at) == sign ? at + 1 : NONE;
+                    at = at >= 0 && at < end && tape.bytes[at] == sign ? at + 1 : NONE;
                 }
             }
             return NONE;
@@ -1599,21 +1614,6 @@ public final class WalkFence {
             told.columns = columns;
             told.rows = value;
             return need(';');
-        }
-
-        private boolean statement() {
-            boolean right;
-            switch (kind == WORD ? word : NONE) {
-                case STEEP: right = steepLine(); break;
-                case IRON: right = ironLine(); break;
-                case FENCE: right = fenceLine(); break;
-                case STAKE: right = stakeLine(); break;
-                case WALKS: right = walksLine(); break;
-                case ROOTS: right = rootsLine(); break;
-                case TIDE: right = tideLine(); break;
-                default: right = wrong(1, start); break;
-            }
-            return right && need(';');
         }
 
         private boolean steepLine() {
