@@ -224,7 +224,7 @@ public final class WalkFence {
     }
 
     public int later(int fence, int n, int what) {
-        if (!slope.hasFence(fence) || n < 0 || n > aheadAtMost(AHEAD_YEARS)) {
+        if (!slope.hasFence(fence) || n < 0 || n > yearsAtMost(AHEAD_YEARS)) {
             return NONE;
         }
         Lay then = foresight.goAhead(n);
@@ -237,7 +237,7 @@ public final class WalkFence {
     }
 
     public int whose(int column, int row, int n) {
-        if (!slope.hasPlace(column, row) || n < 0 || n > aheadAtMost(AHEAD_YEARS)) {
+        if (!slope.hasPlace(column, row) || n < 0 || n > yearsAtMost(AHEAD_YEARS)) {
             return NONE;
         }
         return foresight.goAhead(n).ownerOf(column, row);
@@ -247,7 +247,7 @@ public final class WalkFence {
         if (!areTwoFences(one, other)) {
             return NONE;
         }
-        return foresight.firstMeeting(one, other, aheadAtMost(AHEAD_YEARS));
+        return foresight.firstMeeting(one, other, yearsAtMost(AHEAD_YEARS));
     }
 
     public int below(int one, int other) {
@@ -255,7 +255,7 @@ public final class WalkFence {
     }
 
     public int sets(int fence, int n, int what) {
-        if (!slope.hasFence(fence) || n < 1 || n > aheadAtMost(SETS_YEARS) || what < 0 || what > 1) {
+        if (!slope.hasFence(fence) || n < 1 || n > yearsAtMost(SETS_YEARS) || what < 0 || what > 1) {
             return NONE;
         }
         int best = foresight.leastField(fence, n, NONE);
@@ -271,7 +271,7 @@ public final class WalkFence {
     }
 
     public int irons(int fence, int n, int what) {
-        if (!slope.hasFence(fence) || n < 1 || n > aheadAtMost(IRONS_YEARS) || now.countPosts() >= POSTS) {
+        if (!slope.hasFence(fence) || n < 1 || n > yearsAtMost(IRONS_YEARS) || now.countPosts() >= POSTS) {
             return NONE;
         }
         foresight.findIron(fence, n);
@@ -284,7 +284,7 @@ public final class WalkFence {
     }
 
     public int rest(int n) {
-        if (!slope.isTold() || n < 1 || n > aheadAtMost(REST_YEARS)) {
+        if (!slope.isTold() || n < 1 || n > yearsAtMost(REST_YEARS)) {
             return NONE;
         }
         return foresight.findRest(n);
@@ -300,7 +300,7 @@ public final class WalkFence {
         if (!slope.isTold()) {
             return NONE;
         }
-        foresight.findFits(seen, aheadAtMost(SEEN_YEARS));
+        foresight.findFits(seen, yearsAtMost(SEEN_YEARS));
         switch (what) {
             case 0: return foresight.fitting;
             case 1: return foresight.firstFit;
@@ -313,7 +313,7 @@ public final class WalkFence {
         if (!slope.isTold()) {
             return NONE;
         }
-        foresight.findTelling(seen, aheadAtMost(SEEN_YEARS));
+        foresight.findTelling(seen, yearsAtMost(SEEN_YEARS));
         switch (what) {
             case 0: return foresight.tellingColumn;
             case 1: return foresight.tellingRow;
@@ -352,7 +352,7 @@ public final class WalkFence {
     }
 
     public int years(int n) {
-        if (!slope.isTold() || n < 1 || n > ACT_YEARS) {
+        if (!slope.isTold() || n < 1 || n > yearsAtMost(ACT_YEARS)) {
             return refuse(3);
         }
         beginAct();
@@ -364,7 +364,7 @@ public final class WalkFence {
     }
 
     public int chance(int n) {
-        if (!slope.isTold() || n < 1 || n > ACT_YEARS) {
+        if (!slope.isTold() || n < 1 || n > yearsAtMost(ACT_YEARS)) {
             return refuse(3);
         }
         beginAct();
@@ -451,7 +451,7 @@ public final class WalkFence {
         return NONE;
     }
 
-    private int aheadAtMost(int years) {
+    private int yearsAtMost(int years) {
         return Math.min(years, LAST_YEAR - now.year);
     }
 

@@ -958,7 +958,7 @@ final class Model {
     }
 
     int years(int n) {
-        if (told == null || n < 1 || n > 100) {
+        if (told == null || !canBe(n, 1, 100)) {
             return refuse(3);
         }
         act();
@@ -975,7 +975,7 @@ final class Model {
     }
 
     int chance(int n) {
-        if (told == null || n < 1 || n > 100) {
+        if (told == null || !canBe(n, 1, 100)) {
             return refuse(3);
         }
         act();

@@ -262,13 +262,15 @@ final class ModelTest {
         }
     }
 
-    /** Far on, so that YEAR 999 and the last of the KEPT come into play. */
+    /** Far on, so that YEAR 999 and the last of the KEPT come into play; at last to it, or one beyond. */
     private int bigStep() {
         int n = 90 + below(13);
         for (int k = below(12); k >= 0; k--) {
             Due.is("years(" + n + ")", x.years(n), m.years(n));
         }
-        return 12;
+        int last = 999 - m.has(3) + below(3) - 1;
+        Due.is("chance(" + last + ")", x.chance(last), m.chance(last));
+        return 13;
     }
 
     private int again(boolean large) {

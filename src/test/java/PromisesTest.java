@@ -39,6 +39,7 @@ final class PromisesTest {
         setAndCut();
         ironDriven();
         yearsRefused();
+        yearsToTheLast();
         chanceBySeed();
         undoing();
         questions();
@@ -480,8 +481,8 @@ final class PromisesTest {
         for (int k = 0; k < 10; k++) {
             x.years(100);
         }
-        Due.is("YEAR 999 at most", x.has(3), 999);
-        Due.is("one ACT each", x.has(10), 14);
+        Due.is("YEAR 999 at most", x.has(3), 903);
+        Due.is("one ACT each", x.has(10), 12);
         WalkFence walks = Due.on("slope 1 by 30;fence f row 0 age 2;walks age+year;");
         walks.years(2);
         Due.is("by what is ahead of it", walks.stake(0, 0), 2 + 4);
@@ -886,6 +887,34 @@ final class PromisesTest {
         Due.is("status(3)", x.status(3), 5);
         Due.is("YEAR", x.has(3), 200);
         Due.is("ACTS", x.has(10), 2);
+    }
+
+    /** The YEAR is 999 at most: what would go beyond it can't be, by an image's YEAR or by YEARS that came. */
+    private static void yearsToTheLast() {
+        Due.about("promises 26, 27: YEAR 999");
+        WalkFence x = Due.on("slope 1 by 9;steep 0 2;fence a row 4 age 7;tide 60;");
+        Due.is("YEAR 997", on(x, checked(3, 229, 0, 7, 1, 4)), true);
+        Due.is("years(3)", x.years(3), NONE);
+        Due.is("chance(3)", x.chance(3), NONE);
+        Due.is("chance(100)", x.chance(100), NONE);
+        Due.is("status(3)", x.status(3), 3);
+        Due.is("all stays: YEAR", x.has(3), 997);
+        Due.is("all stays: ACTS", x.has(10), 0);
+        Due.is("all stays: CUT", x.has(6), 1);
+        Due.is("all stays: age", x.fence(0, 0), 7);
+        Due.is("years(2)", x.years(2), 0);
+        Due.is("YEAR 999", x.has(3), 999);
+        Due.is("row", x.stake(0, 0), 6);
+        Due.is("years(1)", x.years(1), NONE);
+        Due.is("chance(1)", x.chance(1), NONE);
+        Due.is("status(3)", x.status(3), 5);
+        Due.is("undo()", x.undo(), true);
+        WalkFence fresh = Due.on("slope 1 by 9;steep 0 2;fence a row 4 age 7;tide 60;");
+        fresh.cut(0);
+        Due.is("what is refused DRAWS nothing", x.chance(2), fresh.chance(2));
+        Due.is("alike", x.stake(0, 0), fresh.stake(0, 0));
+        Due.is("to YEAR 999", x.has(3), 999);
+        Due.is("none behind it", x.chance(1), NONE);
     }
 
     private static void chanceBySeed() {
