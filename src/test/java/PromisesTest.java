@@ -104,39 +104,31 @@ final class PromisesTest {
         Due.is("has(1)", x.has(1), 30);
     }
 
-    private static void fault(String text, int kind, int at) {
-        WalkFence x = new WalkFence();
-        Due.is("slope() of " + text, Due.slope(x, text), NONE);
-        Due.is("fault(0) of " + text, x.fault(0), kind);
-        Due.is("fault(1) of " + text, x.fault(1), at);
-        Due.is("status(1) of " + text, x.status(1), 1);
-    }
-
     /** A FAULT so far into what stands behind "slope 3 by 8;". */
     private static void lineFault(String text, int kind, int at) {
-        fault("slope 3 by 8;" + text, kind, 13 + at);
+        Due.fault("slope 3 by 8;" + text, kind, 13 + at);
     }
 
     private static void slopeFaultsOfBytes() {
         Due.about("promises 4, 5: FAULT 1");
-        fault("", 1, 0);
-        fault(" \n ", 1, 3);
-        fault("slope", 1, 5);
-        fault("slope  ", 1, 7);
-        fault("slop", 1, 0);
-        fault("slopes 3", 1, 0);
-        fault("Slope 3 by 8;", 1, 0);
-        fault("steep 0 1;", 1, 0);
-        fault("slope3 by 8;", 1, 5);
-        fault("slope 3by 8;", 1, 7);
-        fault("slope 3 by8;", 1, 10);
-        fault("slope 3 by 8", 1, 12);
-        fault("slope 3 by 8 fence", 1, 13);
-        fault("slope 3 by 8\t;", 1, 12);
-        fault("slope 3 by 8;\u00e9", 1, 13);
-        fault("slope 12345", 1, 10);
-        fault("slope 00001 by 8;", 1, 10);
-        fault("slope three", 1, 6);
+        Due.fault("", 1, 0);
+        Due.fault(" \n ", 1, 3);
+        Due.fault("slope", 1, 5);
+        Due.fault("slope  ", 1, 7);
+        Due.fault("slop", 1, 0);
+        Due.fault("slopes 3", 1, 0);
+        Due.fault("Slope 3 by 8;", 1, 0);
+        Due.fault("steep 0 1;", 1, 0);
+        Due.fault("slope3 by 8;", 1, 5);
+        Due.fault("slope 3by 8;", 1, 7);
+        Due.fault("slope 3 by8;", 1, 10);
+        Due.fault("slope 3 by 8", 1, 12);
+        Due.fault("slope 3 by 8 fence", 1, 13);
+        Due.fault("slope 3 by 8\t;", 1, 12);
+        Due.fault("slope 3 by 8;\u00e9", 1, 13);
+        Due.fault("slope 12345", 1, 10);
+        Due.fault("slope 00001 by 8;", 1, 10);
+        Due.fault("slope three", 1, 6);
         lineFault(";", 1, 0);
         lineFault("slope 3 by 8;", 1, 0);
         lineFault("ann 3", 1, 0);
@@ -193,10 +185,10 @@ final class PromisesTest {
 
     private static void slopeFaultsOfNumbersAndNames() {
         Due.about("promises 4, 5: FAULTS 2, 3");
-        fault("slope 0 by", 2, 6);
-        fault("slope 7by", 2, 6);
-        fault("slope 1 by 3;", 2, 11);
-        fault("slope 6 by 31;", 2, 11);
+        Due.fault("slope 0 by", 2, 6);
+        Due.fault("slope 7by", 2, 6);
+        Due.fault("slope 1 by 3;", 2, 11);
+        Due.fault("slope 6 by 31;", 2, 11);
         lineFault("steep 3 0;", 2, 6);
         lineFault("steep 2 10;", 2, 8);
         lineFault("iron 3 0;", 2, 5);
@@ -215,14 +207,6 @@ final class PromisesTest {
         Due.is("tide 100", Due.slope(new WalkFence(), "slope 3 by 8;tide 100;"), 2);
     }
 
-    private static String many(int n, String text) {
-        StringBuilder s = new StringBuilder();
-        for (int k = 0; k < n; k++) {
-            s.append(text);
-        }
-        return s.toString();
-    }
-
     private static void slopeFaultsOfMany() {
         Due.about("promises 4, 5: FAULT 5");
         String fences = "fence a row 0 age 0;fence b row 0 age 0;fence c row 0 age 0;fence d row 0 age 0;"
@@ -238,27 +222,27 @@ final class PromisesTest {
         lineFault(posts + " iron 9 9", 5, 109);
         lineFault("walks 1; walks", 5, 9);
         lineFault("roots all;roots;", 5, 10);
-        Due.is("80 STATEMENTS", Due.slope(new WalkFence(), "slope 3 by 8;" + many(79, "tide 1;") + " \n"), 80);
-        lineFault(many(79, "tide 1;") + " tide 1;", 5, 554);
-        lineFault(many(79, "tide 1;") + "\n)", 5, 554);
-        lineFault(many(79, "tide 1;") + ";", 5, 553);
-        lineFault(many(78, "tide 1;") + "tide 1", 1, 552);
+        Due.is("80 STATEMENTS", Due.slope(new WalkFence(), "slope 3 by 8;" + Due.many(79, "tide 1;") + " \n"), 80);
+        lineFault(Due.many(79, "tide 1;") + " tide 1;", 5, 554);
+        lineFault(Due.many(79, "tide 1;") + "\n)", 5, 554);
+        lineFault(Due.many(79, "tide 1;") + ";", 5, 553);
+        lineFault(Due.many(78, "tide 1;") + "tide 1", 1, 552);
     }
 
     private static void slopeFaultsOfDepth() {
         Due.about("promises 4, 5: FAULT 4");
-        String six = "slope 1 by 4;walks " + many(6, "(") + "1" + many(6, ")") + ";";
+        String six = "slope 1 by 4;walks " + Due.many(6, "(") + "1" + Due.many(6, ")") + ";";
         Due.is("6 open", Due.slope(new WalkFence(), six), 2);
-        lineFault("walks " + many(7, "(") + "1", 4, 12);
-        lineFault("walks " + many(6, "(") + "min(1,2)", 4, 15);
-        lineFault("walks " + many(6, "(") + "min 1", 1, 16);
-        lineFault("walks min(1," + many(5, "max(1,") + "(1", 4, 42);
-        lineFault("walks " + many(6, "min(") + "(1", 4, 30);
-        Due.is("6 min open", Due.slope(new WalkFence(), BARE + "walks " + many(6, "min(") + "1" + many(6, ",1)") + ";"), 2);
-        Due.is("6 max open", Due.slope(new WalkFence(), BARE + "walks " + many(6, "max(1,") + "1" + many(6, ")") + ";"), 2);
-        Due.is("closed ones", Due.slope(new WalkFence(), "slope 1 by 4;walks " + many(9, "(1)+") + "1;"), 2);
-        Due.is("6 not", Due.slope(new WalkFence(), BARE + "roots " + many(6, "not ") + "all;"), 2);
-        lineFault("roots " + many(7, "not ") + "all;", 4, 30);
+        lineFault("walks " + Due.many(7, "(") + "1", 4, 12);
+        lineFault("walks " + Due.many(6, "(") + "min(1,2)", 4, 15);
+        lineFault("walks " + Due.many(6, "(") + "min 1", 1, 16);
+        lineFault("walks min(1," + Due.many(5, "max(1,") + "(1", 4, 42);
+        lineFault("walks " + Due.many(6, "min(") + "(1", 4, 30);
+        Due.is("6 min open", Due.slope(new WalkFence(), BARE + "walks " + Due.many(6, "min(") + "1" + Due.many(6, ",1)") + ";"), 2);
+        Due.is("6 max open", Due.slope(new WalkFence(), BARE + "walks " + Due.many(6, "max(1,") + "1" + Due.many(6, ")") + ";"), 2);
+        Due.is("closed ones", Due.slope(new WalkFence(), "slope 1 by 4;walks " + Due.many(9, "(1)+") + "1;"), 2);
+        Due.is("6 not", Due.slope(new WalkFence(), BARE + "roots " + Due.many(6, "not ") + "all;"), 2);
+        lineFault("roots " + Due.many(7, "not ") + "all;", 4, 30);
         lineFault("roots not not [ not [ [ not", 4, 24);
         lineFault("roots not not not [[[(1)>0", 4, 21);
         Due.is("a not ends with its FACT", Due.slope(new WalkFence(),
@@ -712,11 +696,11 @@ final class PromisesTest {
         Due.is("none is better", alone.irons(0, 1, 0), NONE);
         Due.is("none: its row", alone.irons(0, 1, 1), NONE);
         Due.is("none: its FIELD", alone.irons(0, 1, 2), NONE);
-        int[] before = imageOf(alone);
+        int[] before = Due.imageOf(alone);
         alone.set(0);
         Due.is("behind set()", alone.irons(0, 2, 1), 0);
         Due.is("another n", alone.irons(0, 5, 2), 19);
-        on(alone, before);
+        Due.takes(alone, before);
         Due.is("behind on()", alone.irons(0, 1, 1), NONE);
         Due.slope(alone, "slope 2 by 10;steep 0 2;steep 1 2;fence a row 1 age 0;");
         Due.is("behind slope()", alone.irons(0, 1, 1), 1);
@@ -755,31 +739,26 @@ final class PromisesTest {
         Due.is("none is CUT by it", Due.on(COAST).has(6), 0);
     }
 
-    private static int seeing(WalkFence x, int... bytes) {
-        Due.tape(x, bytes);
-        return x.see();
-    }
-
     private static void seeing() {
         Due.about("promise 20");
         WalkFence x = Due.on(COAST);
-        Due.is("two rows", seeing(x, 0, 0, 0, 2, 0, 255), 2);
+        Due.is("two rows", Due.sees(x, 0, 0, 0, 2, 0, 255), 2);
         Due.is("has(9)", x.has(9), 2);
         Due.is("the tape goes", x.end(1), false);
-        Due.is("nothing", seeing(x), NONE);
-        Due.is("four bytes", seeing(x, 0, 0, 0, 0), NONE);
-        Due.is("a column", seeing(x, 3, 0, 0), NONE);
-        Due.is("a row", seeing(x, 0, 8, 0), NONE);
-        Due.is("a FENCE", seeing(x, 0, 0, 2), NONE);
-        Due.is("the second row", seeing(x, 0, 0, 0, 9, 0, 0), NONE);
+        Due.is("nothing", Due.sees(x), NONE);
+        Due.is("four bytes", Due.sees(x, 0, 0, 0, 0), NONE);
+        Due.is("a column", Due.sees(x, 3, 0, 0), NONE);
+        Due.is("a row", Due.sees(x, 0, 8, 0), NONE);
+        Due.is("a FENCE", Due.sees(x, 0, 0, 2), NONE);
+        Due.is("the second row", Due.sees(x, 0, 0, 0, 9, 0, 0), NONE);
         Due.is("all stays", x.has(9), 2);
         Due.is("refused", x.status(1), 6);
-        Due.is("16 rows", seeing(x, new int[48]), 16);
-        Due.is("17 rows", seeing(x, new int[51]), NONE);
-        Due.is("instead of those", seeing(x, 0, 0, 0), 1);
-        Due.is("the tape goes, refused", seeing(x, 1), NONE);
+        Due.is("16 rows", Due.sees(x, new int[48]), 16);
+        Due.is("17 rows", Due.sees(x, new int[51]), NONE);
+        Due.is("instead of those", Due.sees(x, 0, 0, 0), 1);
+        Due.is("the tape goes, refused", Due.sees(x, 1), NONE);
         Due.is("the tape is gone", x.end(1), false);
-        Due.is("without a slope", seeing(new WalkFence(), 0, 0, 255), NONE);
+        Due.is("without a slope", Due.sees(new WalkFence(), 0, 0, 255), NONE);
     }
 
     private static void fitsAndTells() {
@@ -793,7 +772,7 @@ final class PromisesTest {
         Due.is("fits(-1)", x.fits(-1), NONE);
         Due.is("telling row", x.tells(1), 9);
         Due.is("telling left", x.tells(2), 21);
-        seeing(x, 0, 6, 0, 0, 2, 255);
+        Due.sees(x, 0, 6, 0, 0, 2, 255);
         Due.is("fits(0)", x.fits(0), 4);
         Due.is("fits(1)", x.fits(1), 3);
         Due.is("fits(2)", x.fits(2), 6);
@@ -804,7 +783,7 @@ final class PromisesTest {
         Due.is("tells(-1)", x.tells(-1), NONE);
         x.years(2);
         Due.is("from now on", x.fits(1), 1);
-        seeing(x, 0, 6, 0, 0, 6, 255);
+        Due.sees(x, 0, 6, 0, 0, 6, 255);
         Due.is("none fits", x.fits(0), 0);
         Due.is("no first", x.fits(1), NONE);
         Due.is("no last", x.fits(2), NONE);
@@ -819,11 +798,11 @@ final class PromisesTest {
         WalkFence three = Due.on("slope 1 by 4;fence a row 0 age 0;fence b row 0 age 0;fence c row 0 age 0;stake c 0 row 2;"
                 + "roots year=0 and age=1;");
         Due.is("all fit", three.fits(0), 31);
-        seeing(three, 0, 3, 2);
+        Due.sees(three, 0, 3, 2);
         Due.is("c has the last row", three.fits(0), 1 + 0);
-        seeing(three, 0, 0, 0, 0, 1, 255);
+        Due.sees(three, 0, 0, 0, 0, 1, 255);
         Due.is("none fits", three.tells(0), NONE);
-        seeing(three, 0, 3, 0);
+        Due.sees(three, 0, 3, 0);
         Due.is("one group", three.tells(2) < three.fits(0), true);
         WalkFence two = Due.on("slope 2 by 4;steep 0 0;fence a row 3 age 0;fence b row 2 age 0;stake b 1 row 1;roots left<2;");
         Due.is("column by column", two.tells(0), 1);
@@ -893,7 +872,7 @@ final class PromisesTest {
     private static void yearsToTheLast() {
         Due.about("promises 26, 27: YEAR 999");
         WalkFence x = Due.on("slope 1 by 9;steep 0 2;fence a row 4 age 7;tide 60;");
-        Due.is("YEAR 997", on(x, checked(3, 229, 0, 7, 1, 4)), true);
+        Due.is("YEAR 997", Due.takes(x, Due.checked(3, 229, 0, 7, 1, 4)), true);
         Due.is("years(3)", x.years(3), NONE);
         Due.is("chance(3)", x.chance(3), NONE);
         Due.is("chance(100)", x.chance(100), NONE);
@@ -1016,63 +995,57 @@ final class PromisesTest {
         Due.is("what is refused can't be undone", x.has(10), 0);
     }
 
-    private static void question(WalkFence x, String text, long due) {
-        Due.is(text, Due.ask(x, text), due);
-        Due.is("fault(0) of " + text, x.fault(0), 0);
-        Due.is("fault(1) of " + text, x.fault(1), NONE);
-    }
-
     private static void questions() {
         Due.about("promise 30");
         WalkFence x = Due.on(COAST);
         x.cut(1);
-        question(x, "total age", 3);
-        question(x, "total cut*10+number", 11);
-        question(x, " most\nfield ", 14);
-        question(x, "least field", 8);
-        question(x, "least 0-field", -14);
-        question(x, "total row 2*10", 80);
-        question(x, "total row(1+1)", 8);
-        question(x, "total row row 0", 0 + 2);
-        question(x, "total row 3", -2);
-        question(x, "total row(0-1)", -2);
-        question(x, "total below 0", 2);
-        question(x, "total below 1", 1);
-        question(x, "total below 2", 0);
-        question(x, "total below(0-1)", 0);
-        question(x, "first all", 0);
-        question(x, "last all", 1);
-        question(x, "first cut=1", 1);
-        question(x, "last age>0", 0);
-        question(x, "first year>0", NONE);
-        question(x, "last not all", NONE);
-        question(x, "often left=3", 2);
-        question(x, "often field>8", 1);
-        question(x, "total min(number,5)+max(0,1)", 3);
-        question(x, "most 9999*9999", 1000000);
-        question(x, "most 5-number", 5);
-        question(x, "most number-5", -4);
-        question(x, "least number", 0);
-        question(x, "least 5-number", 4);
-        question(x, "total 9999*9999", 2000000);
-        question(x, "total " + many(6, "row ") + "0", Due.ask(x, "total row row row row row row 0"));
+        Due.answers(x, "total age", 3);
+        Due.answers(x, "total cut*10+number", 11);
+        Due.answers(x, " most\nfield ", 14);
+        Due.answers(x, "least field", 8);
+        Due.answers(x, "least 0-field", -14);
+        Due.answers(x, "total row 2*10", 80);
+        Due.answers(x, "total row(1+1)", 8);
+        Due.answers(x, "total row row 0", 0 + 2);
+        Due.answers(x, "total row 3", -2);
+        Due.answers(x, "total row(0-1)", -2);
+        Due.answers(x, "total below 0", 2);
+        Due.answers(x, "total below 1", 1);
+        Due.answers(x, "total below 2", 0);
+        Due.answers(x, "total below(0-1)", 0);
+        Due.answers(x, "first all", 0);
+        Due.answers(x, "last all", 1);
+        Due.answers(x, "first cut=1", 1);
+        Due.answers(x, "last age>0", 0);
+        Due.answers(x, "first year>0", NONE);
+        Due.answers(x, "last not all", NONE);
+        Due.answers(x, "often left=3", 2);
+        Due.answers(x, "often field>8", 1);
+        Due.answers(x, "total min(number,5)+max(0,1)", 3);
+        Due.answers(x, "most 9999*9999", 1000000);
+        Due.answers(x, "most 5-number", 5);
+        Due.answers(x, "most number-5", -4);
+        Due.answers(x, "least number", 0);
+        Due.answers(x, "least 5-number", 4);
+        Due.answers(x, "total 9999*9999", 2000000);
+        Due.answers(x, "total " + Due.many(6, "row ") + "0", Due.ask(x, "total row row row row row row 0"));
         x.years(1);
-        question(x, "total year", 2);
-        question(x, "total cut", 0);
+        Due.answers(x, "total year", 2);
+        Due.answers(x, "total cut", 0);
         WalkFence none = Due.on(BARE);
-        question(none, "total 1", 0);
-        question(none, "most 1", 0);
-        question(none, "least 1", 0);
-        question(none, "often all", 0);
-        question(none, "first all", NONE);
-        question(none, "last all", NONE);
+        Due.answers(none, "total 1", 0);
+        Due.answers(none, "most 1", 0);
+        Due.answers(none, "least 1", 0);
+        Due.answers(none, "often all", 0);
+        Due.answers(none, "first all", NONE);
+        Due.answers(none, "last all", NONE);
         WalkFence low = Due.on(BARE + "fence a row 9 age 0;");
         low.years(1);
-        question(low, "total row 0", -1);
+        Due.answers(low, "total row 0", -1);
         Due.is("the tape goes", low.end(1), false);
         Due.slope(low, "slope 1 by 9;roots 1+1+1=2;walks 0;fence a row 0 age 0;");
         Due.slope(low, "slope 1 by 9;fence a row 0 age 0;");
-        question(low, "total 1+2", 3);
+        Due.answers(low, "total 1+2", 3);
         WalkFence bare = new WalkFence();
         Due.is("without a slope", Due.ask(bare, "often all"), NOTHING);
         Due.is("no FAULT", bare.fault(0), 0);
@@ -1080,10 +1053,7 @@ final class PromisesTest {
     }
 
     private static void questionFault(String text, int kind, int at) {
-        WalkFence x = Due.on(COAST);
-        Due.is("ask() of " + text, Due.ask(x, text), NOTHING);
-        Due.is("fault(0) of " + text, x.fault(0), kind);
-        Due.is("fault(1) of " + text, x.fault(1), at);
+        Due.askFault(Due.on(COAST), text, kind, at);
     }
 
     private static void questionFaults() {
@@ -1106,34 +1076,10 @@ final class PromisesTest {
         questionFault("total row0", 1, 9);
         questionFault("total row+1", 1, 9);
         questionFault("total 12345", 1, 10);
-        questionFault("total " + many(7, "row ") + "0", 4, 30);
-        questionFault("total " + many(3, "below row ") + "(0)", 4, 36);
+        questionFault("total " + Due.many(7, "row ") + "0", 4, 30);
+        questionFault("total " + Due.many(3, "below row ") + "(0)", 4, 36);
         questionFault("first not not [row below (row 0)>0]", 4, 26);
-        Due.is("row ends with its PART", Due.ask(Due.on(COAST), "total row 0+" + many(5, "row ") + "0") != NOTHING, true);
-    }
-
-    private static int[] imageOf(WalkFence x) {
-        int[] bytes = new int[x.image()];
-        for (int k = 0; k < bytes.length; k++) {
-            bytes[k] = x.octet(k);
-        }
-        return bytes;
-    }
-
-    private static boolean on(WalkFence x, int... bytes) {
-        Due.tape(x, bytes);
-        return x.on();
-    }
-
-    /** These bytes and the one that belongs behind them. */
-    private static int[] checked(int... bytes) {
-        int[] all = java.util.Arrays.copyOf(bytes, bytes.length + 1);
-        int c = 131;
-        for (int b : bytes) {
-            c = (3 * c + b) % 251;
-        }
-        all[bytes.length] = c;
-        return all;
+        Due.is("row ends with its PART", Due.ask(Due.on(COAST), "total row 0+" + Due.many(5, "row ") + "0") != NOTHING, true);
     }
 
     private static final String SMALL = "slope 2 by 9;iron 1 3;iron 0 7;fence a row 8 age 3;fence b row 0 age 0;";
@@ -1145,8 +1091,8 @@ final class PromisesTest {
         x.iron(1, 0);
         x.years(1);
         x.cut(1);
-        int[] due = checked(0, 1, 3, 0, 7, 1, 0, 1, 3, 4, 0, 255, 255, 1, 1, 1, 0);
-        int[] is = imageOf(x);
+        int[] due = Due.checked(0, 1, 3, 0, 7, 1, 0, 1, 3, 4, 0, 255, 255, 1, 1, 1, 0);
+        int[] is = Due.imageOf(x);
         Due.is("image()", is.length, due.length);
         for (int k = 0; k < Math.min(is.length, due.length); k++) {
             Due.is("octet(" + k + ")", is[k], due[k]);
@@ -1157,11 +1103,11 @@ final class PromisesTest {
         x.years(100);
         x.years(100);
         Due.is("the latest image() stays", x.octet(1), 1);
-        int[] late = imageOf(x);
+        int[] late = Due.imageOf(x);
         Due.is("the higher first", late[0], 1);
         Due.is("the lower", late[1], 301 - 256);
-        seeing(x, 0, 0, 255);
-        Due.is("on()", on(x, due), true);
+        Due.sees(x, 0, 0, 255);
+        Due.is("on()", Due.takes(x, due), true);
         Due.is("the tape goes", x.end(1), false);
         Due.is("YEAR", x.has(3), 1);
         Due.is("POSTS", x.has(4), 3);
@@ -1179,42 +1125,42 @@ final class PromisesTest {
     private static void imagesRefused() {
         Due.about("promise 33: refused");
         WalkFence x = Due.on(SMALL);
-        int[] good = checked(0, 0, 1, 0, 7, 3, 0, 8, 8, 0, 0, 0, 0);
+        int[] good = Due.checked(0, 0, 1, 0, 7, 3, 0, 8, 8, 0, 0, 0, 0);
         x.years(3);
         int[][] wrong = {
-            {}, {0}, {0, 0, 0}, checked(0, 0, 0), java.util.Arrays.copyOf(good, good.length - 1),
+            {}, {0}, {0, 0, 0}, Due.checked(0, 0, 0), java.util.Arrays.copyOf(good, good.length - 1),
             java.util.Arrays.copyOf(good, good.length + 1),
-            checked(3, 232, 1, 0, 7, 3, 0, 8, 8, 0, 0, 0, 0),
-            checked(0, 0, 1, 2, 7, 3, 0, 8, 8, 0, 0, 0, 0),
-            checked(0, 0, 1, 0, 9, 3, 0, 8, 8, 0, 0, 0, 0),
-            checked(0, 0, 1, 0, 7, 100, 0, 8, 8, 0, 0, 0, 0),
-            checked(0, 0, 1, 0, 7, 3, 2, 8, 8, 0, 0, 0, 0),
-            checked(0, 0, 1, 0, 7, 3, 0, 9, 8, 0, 0, 0, 0),
-            checked(0, 0, 1, 0, 7, 3, 0, 8, 8, 0, 0, 0, 254),
-            checked(0, 0, 2, 0, 7, 0, 7, 3, 0, 8, 8, 0, 0, 0, 0),
-            checked(0, 0, 2, 0, 7, 0, 6, 3, 0, 8, 8, 0, 0, 0, 0),
-            checked(0, 0, 2, 1, 0, 0, 7, 3, 0, 8, 8, 0, 0, 0, 0),
-            checked(0, 0, 0, 3, 0, 8, 8, 0, 0, 0, 0, 0),
+            Due.checked(3, 232, 1, 0, 7, 3, 0, 8, 8, 0, 0, 0, 0),
+            Due.checked(0, 0, 1, 2, 7, 3, 0, 8, 8, 0, 0, 0, 0),
+            Due.checked(0, 0, 1, 0, 9, 3, 0, 8, 8, 0, 0, 0, 0),
+            Due.checked(0, 0, 1, 0, 7, 100, 0, 8, 8, 0, 0, 0, 0),
+            Due.checked(0, 0, 1, 0, 7, 3, 2, 8, 8, 0, 0, 0, 0),
+            Due.checked(0, 0, 1, 0, 7, 3, 0, 9, 8, 0, 0, 0, 0),
+            Due.checked(0, 0, 1, 0, 7, 3, 0, 8, 8, 0, 0, 0, 254),
+            Due.checked(0, 0, 2, 0, 7, 0, 7, 3, 0, 8, 8, 0, 0, 0, 0),
+            Due.checked(0, 0, 2, 0, 7, 0, 6, 3, 0, 8, 8, 0, 0, 0, 0),
+            Due.checked(0, 0, 2, 1, 0, 0, 7, 3, 0, 8, 8, 0, 0, 0, 0),
+            Due.checked(0, 0, 0, 3, 0, 8, 8, 0, 0, 0, 0, 0),
         };
         for (int k = 0; k < wrong.length; k++) {
-            Due.is("on() of the wrong one " + k, on(x, wrong[k]), false);
+            Due.is("on() of the wrong one " + k, Due.takes(x, wrong[k]), false);
         }
         int[] spoiled = good.clone();
         spoiled[spoiled.length - 1] ^= 1;
-        Due.is("the last byte", on(x, spoiled), false);
+        Due.is("the last byte", Due.takes(x, spoiled), false);
         Due.is("the tape goes", x.end(1), false);
         Due.is("status(5)", x.status(5), wrong.length + 1);
         Due.is("all stays: YEAR", x.has(3), 3);
         Due.is("all stays: ACTS", x.has(10), 1);
         Due.is("all stays: POSTS", x.has(4), 2);
-        Due.is("the right one", on(x, good), true);
-        Due.is("YEAR 999", on(x, checked(3, 231, 0, 99, 1, 255, 8, 0, 0, 0, 0)), true);
+        Due.is("the right one", Due.takes(x, good), true);
+        Due.is("YEAR 999", Due.takes(x, Due.checked(3, 231, 0, 99, 1, 255, 8, 0, 0, 0, 0)), true);
         Due.is("has(3)", x.has(3), 999);
-        Due.is("without a slope", on(new WalkFence(), 0, 0, 0, 23), false);
+        Due.is("without a slope", Due.takes(new WalkFence(), 0, 0, 0, 23), false);
         WalkFence wide = Due.on("slope 1 by 30;");
-        Due.is("24 POSTS", on(wide, posts(24)), true);
+        Due.is("24 POSTS", Due.takes(wide, posts(24)), true);
         Due.is("has(4)", wide.has(4), 24);
-        Due.is("25 POSTS", on(wide, posts(25)), false);
+        Due.is("25 POSTS", Due.takes(wide, posts(25)), false);
     }
 
     private static void largestImage() {
@@ -1227,11 +1173,11 @@ final class PromisesTest {
         for (int k = 0; k < 24; k++) {
             x.iron(k % 6, 29 - k / 6);
         }
-        int[] bytes = imageOf(x);
+        int[] bytes = Due.imageOf(x);
         Due.is("image()", bytes.length, 3 + 2 * 24 + 6 * 8 + 1);
         Due.is("the last stake", bytes[98], 29);
-        Due.is("the last byte", bytes[99], checked(java.util.Arrays.copyOf(bytes, 99))[99]);
-        Due.is("on()", on(Due.on(text.toString()), bytes), true);
+        Due.is("the last byte", bytes[99], Due.checked(java.util.Arrays.copyOf(bytes, 99))[99]);
+        Due.is("on()", Due.takes(Due.on(text.toString()), bytes), true);
     }
 
     private static int[] posts(int n) {
@@ -1240,7 +1186,7 @@ final class PromisesTest {
         for (int k = 0; k < n; k++) {
             bytes[4 + 2 * k] = k;
         }
-        return checked(bytes);
+        return Due.checked(bytes);
     }
 
     private static void statuses() {
