@@ -214,6 +214,7 @@ final class AheadEdgesTest {
         WalkFence under = Due.on("slope 2 by 5;fence g row 0 age 0;fence f row 0 age 0;walks 0;");
         Due.is("a FIELD of 0: not at all", under.sets(1, 30, 0), NONE);
         Due.is("0 is its least", under.sets(1, 30, 1), 0);
+        Due.is("the greatest FIELD", Due.on("slope 6 by 30;fence f row 0 age 0;walks 0;").sets(0, 30, 1), 180);
         // By its TEST it is SET behind the first YEAR anyway.
         WalkFence roots = Due.on("slope 1 by 9;fence f row 0 age 0;roots age=1;");
         Due.is("SET by the TEST", roots.sets(0, 9, 0), NONE);
@@ -275,6 +276,8 @@ final class AheadEdgesTest {
         iron("slope 1 by 9;iron 0 4;fence a row 1 age 0;fence b row 4 age 0;walks 3;", 1, 1, 0, 1, 5);
         // A greater one further on counts more than the first.
         iron("slope 2 by 9;steep 1 2;fence f row 1 age 0;", 0, 2, 1, 1, 8 + 6);
+        // It walks by age: not at first, then so far that it is GONE, unless it is held on its way.
+        iron("slope 1 by 9;fence f row 0 age 0;walks age*5;iron 0 0;stake f 0 row 1;", 0, 3, 0, 1, 8);
         // In the last row of the last column.
         iron("slope 2 by 9;steep 0 0;fence f row 8 age 0;", 0, 1, 1, 8, 1 + 1);
     }
@@ -398,6 +401,10 @@ final class AheadEdgesTest {
             Due.is("has(9)", x.has(9), may ? rows : 0);
             Due.is("the first fit", x.fits(1), may ? rows : 0);
         }
+        WalkFence columns = Due.on("slope 3 by 9;steep 0 0;steep 1 2;fence f row 0 age 0;");
+        Due.sees(columns, 0, 0, 0, 1, 3, 255, 2, 2, 0);
+        Due.is("each of its column", columns.fits(0), 1);
+        Due.is("behind 2", columns.fits(1), 2);
         WalkFence y = Due.on(LONE);
         Due.sees(y, 0, 1, 255, 0, 2, 255);
         Due.is("instead of those", Due.sees(y, 0, 0, 255), 1);
@@ -475,6 +482,16 @@ final class AheadEdgesTest {
         Due.is("none tells anything: column", still.tells(0), 0);
         Due.is("none tells anything: row", still.tells(1), 0);
         Due.is("none tells anything: left", still.tells(2), 31);
+        // Row 25 is of f for one YEAR, of the five others for 5 each, then MOOR for 5; row 24 is MOOR for 6.
+        StringBuilder six = new StringBuilder("slope 2 by 30;steep 0 0;");
+        for (int f = 0; f < 6; f++) {
+            six.append("fence ").append((char) ('a' + f)).append(" row 0 age 0;stake ").append((char) ('a' + f)).append(" 1 row ")
+                    .append(5 * f).append(';');
+        }
+        WalkFence many = Due.on(six.toString());
+        Due.is("of six: column", many.tells(0), 1);
+        Due.is("of six: row", many.tells(1), 25);
+        Due.is("of six: left", many.tells(2), 5);
         // Behind 0, 1, 2 row 3 is of g, f, f, then MOOR, for 28 of them; row 2 is MOOR for 29.
         WalkFence three = Due.on("slope 1 by 4;fence f row 1 age 0;fence g row 3 age 0;");
         Due.sees(three, 0, 0, 255);

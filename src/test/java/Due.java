@@ -3,6 +3,7 @@ import java.util.Arrays;
 /** What the tests share: compares answers with those that are due, and feeds texts and bytes. */
 final class Due {
     private static int wrong = 0;
+    private static int asked = 0;
     private static String about = "";
 
     private Due() {
@@ -12,7 +13,13 @@ final class Due {
         about = what;
     }
 
+    /** How many answers were compared so far. */
+    static int asked() {
+        return asked;
+    }
+
     static void is(String call, long got, long want) {
+        asked++;
         if (got != want) {
             wrong++;
             System.out.println(about + ": " + call + " answered " + got + ", due is " + want);

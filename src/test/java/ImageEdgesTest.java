@@ -200,6 +200,13 @@ final class ImageEdgesTest {
         Due.is("SEEN", x.has(9), 1);
         Due.is("undo()", x.undo(), false);
         same("itself", Due.imageOf(x), bytes);
+        // What was tried AHEAD leaves nothing to it.
+        x.irons(1, 1, 0);
+        x.later(0, 0, 0);
+        Due.is("without POSTS", Due.takes(x, Due.checked(0, 0, 0, 0, 0, 0, 0, 0, 0, 0, 0)), true);
+        Due.is("POSTS", x.has(4), 0);
+        Due.is("CUT", x.has(6), 0);
+        Due.is("stakes", x.has(5), 4);
         WalkFence y = Due.on(SMALL + "tide 100;walks 0;");
         WalkFence z = Due.on(SMALL + "tide 100;walks 0;");
         y.seed(9);

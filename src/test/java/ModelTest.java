@@ -4,8 +4,9 @@ import java.util.Random;
 
 /** Runs of calls by chance (of fixed seeds) on the class and on the plain model of the document, side by side. */
 final class ModelTest {
-    private static final int RUNS = 1500;
-    private static final int CALLS = 500;
+    private static final int RUNS = 2500;
+    /** With the longest step behind them, an image's octets, they are still below the 512 of which the document speaks. */
+    private static final int CALLS = 400;
 
     private final Random random;
     private final int run;
@@ -36,10 +37,11 @@ final class ModelTest {
 
     private void play() {
         boolean large = run % 25 == 0;
-        int calls = large ? 60 : CALLS;
+        int calls = large ? 100 : CALLS;
+        int from = Due.asked();
         slope(large);
-        for (int k = 0; k < calls; ) {
-            k += call(large);
+        while (Due.asked() - from < calls) {
+            call(large);
         }
     }
 
@@ -216,7 +218,7 @@ final class ModelTest {
         }
     }
 
-    private int call(boolean large) {
+    private void call(boolean large) {
         int f = below(8) - 1;
         int g = below(5);
         int c = below(8) - 1;
@@ -225,66 +227,59 @@ final class ModelTest {
         int w = below(5) - 1;
         String by = "(" + f + "/" + g + "/" + c + "/" + r + "/" + n + "/" + w + ")";
         switch (below(36)) {
-            case 0: Due.is("has" + by, x.has(n), m.has(n)); return 1;
-            case 1: Due.is("letter" + by, x.letter(f, n), m.letter(f, n)); return 1;
-            case 2: Due.is("place" + by, x.place(c, r, w), m.place(c, r, w)); return 1;
-            case 3: Due.is("fence" + by, x.fence(f, w), m.fence(f, w)); return 1;
-            case 4: Due.is("stake" + by, x.stake(f, c), m.stake(f, c)); return 1;
-            case 5: Due.is("walks" + by, x.walks(f, c), m.walks(f, c)); return 1;
-            case 6: Due.is("kept" + by, x.kept(n, w), m.kept(n, w)); return 1;
-            case 7: Due.is("later" + by, x.later(f, n, w), m.later(f, n, w)); return 1;
-            case 8: Due.is("whose" + by, x.whose(c, r, n), m.whose(c, r, n)); return 1;
-            case 9: Due.is("meets" + by, x.meets(f, g), m.meets(f, g)); return 1;
-            case 10: Due.is("below" + by, x.below(f, g), m.below(f, g)); return 1;
-            case 11: Due.is("sets" + by, x.sets(g, n, w), m.sets(g, n, w)); return 1;
-            case 12: Due.is("irons" + by, x.irons(g, n, w), m.irons(g, n, w)); return 1;
-            case 13: Due.is("irons" + by, x.irons(0, 2, w), m.irons(0, 2, w)); return 1;
-            case 14: Due.is("rest" + by, x.rest(n), m.rest(n)); return 1;
-            case 15: see(); return 3;
-            case 16: Due.is("fits" + by, x.fits(w), m.fits(w)); return 1;
-            case 17: Due.is("tells" + by, x.tells(w), m.tells(w)); return 1;
-            case 18: Due.is("set" + by, x.set(f), m.set(f)); return 1;
-            case 19: Due.is("cut" + by, x.cut(g), m.cut(g)); return 1;
-            case 20: Due.is("iron" + by, x.iron(c, r), m.iron(c, r)); return 1;
-            case 21: Due.is("years" + by, x.years(n), m.years(n)); return 1;
-            case 22: Due.is("chance" + by, x.chance(n), m.chance(n)); return 1;
-            case 23: Due.is("undo()", x.undo(), m.undo()); return 1;
-            case 24: Due.is("seed" + by, x.seed(n - 1), m.seed(n - 1)); return 1;
-            case 25: question(); return 8;
-            case 26: question(); return 8;
-            case 27: image(); return 20;
-            case 28: on(); return 5;
-            case 29: Due.is("status" + by, x.status(n), m.status(n)); return 1;
-            case 30: Due.is("fault" + by, x.fault(w), m.fault(w)); return 1;
-            case 31: return below(8) == 0 ? bigStep() : 1;
-            case 32: return below(8) == 0 ? again(large) : 1;
-            default: return lookRound();
+            case 0: Due.is("has" + by, x.has(n), m.has(n)); return;
+            case 1: Due.is("letter" + by, x.letter(f, n), m.letter(f, n)); return;
+            case 2: Due.is("place" + by, x.place(c, r, w), m.place(c, r, w)); return;
+            case 3: Due.is("fence" + by, x.fence(f, w), m.fence(f, w)); return;
+            case 4: Due.is("stake" + by, x.stake(f, c), m.stake(f, c)); return;
+            case 5: Due.is("walks" + by, x.walks(f, c), m.walks(f, c)); return;
+            case 6: Due.is("kept" + by, x.kept(n, w), m.kept(n, w)); return;
+            case 7: Due.is("later" + by, x.later(f, n, w), m.later(f, n, w)); return;
+            case 8: Due.is("whose" + by, x.whose(c, r, n), m.whose(c, r, n)); return;
+            case 9: Due.is("meets" + by, x.meets(f, g), m.meets(f, g)); return;
+            case 10: Due.is("below" + by, x.below(f, g), m.below(f, g)); return;
+            case 11: Due.is("sets" + by, x.sets(g, n, w), m.sets(g, n, w)); return;
+            case 12: Due.is("irons" + by, x.irons(g, n, w), m.irons(g, n, w)); return;
+            case 13: Due.is("irons" + by, x.irons(0, 2, w), m.irons(0, 2, w)); return;
+            case 14: Due.is("rest" + by, x.rest(n), m.rest(n)); return;
+            case 15: see(); return;
+            case 16: Due.is("fits" + by, x.fits(w), m.fits(w)); return;
+            case 17: Due.is("tells" + by, x.tells(w), m.tells(w)); return;
+            case 18: Due.is("set" + by, x.set(f), m.set(f)); return;
+            case 19: Due.is("cut" + by, x.cut(g), m.cut(g)); return;
+            case 20: Due.is("iron" + by, x.iron(c, r), m.iron(c, r)); return;
+            case 21: Due.is("years" + by, x.years(n), m.years(n)); return;
+            case 22: Due.is("chance" + by, x.chance(n), m.chance(n)); return;
+            case 23: Due.is("undo()", x.undo(), m.undo()); return;
+            case 24: Due.is("seed" + by, x.seed(n - 1), m.seed(n - 1)); return;
+            case 25: question(); return;
+            case 26: question(); return;
+            case 27: image(); return;
+            case 28: on(); return;
+            case 29: Due.is("status" + by, x.status(n), m.status(n)); return;
+            case 30: Due.is("fault" + by, x.fault(w), m.fault(w)); return;
+            case 31: if (below(8) == 0) { bigStep(); } return;
+            case 32: if (below(8) == 0) { slope(large); } return;
+            default: lookRound(); return;
         }
     }
 
     /** Far on, so that YEAR 999 and the last of the KEPT come into play; at last to it, or one beyond. */
-    private int bigStep() {
+    private void bigStep() {
         int n = 90 + below(13);
         for (int k = below(12); k >= 0; k--) {
             Due.is("years(" + n + ")", x.years(n), m.years(n));
         }
         int last = 999 - m.has(3) + below(3) - 1;
         Due.is("chance(" + last + ")", x.chance(last), m.chance(last));
-        return 13;
     }
 
-    private int again(boolean large) {
-        slope(large);
-        return 90;
-    }
-
-    private int lookRound() {
+    private void lookRound() {
         int what = below(11);
         Due.is("has(" + what + ")", x.has(what), m.has(what));
         int kept = below(42);
         for (int w = 0; w < 3; w++) {
             Due.is("kept(" + kept + ", " + w + ")", x.kept(kept, w), m.kept(kept, w));
         }
-        return 4;
     }
 }

@@ -136,14 +136,17 @@ final class RulesTest {
         Due.about("rule 12");
         com.sun.management.ThreadMXBean bean = (com.sun.management.ThreadMXBean) ManagementFactory.getThreadMXBean();
         long thread = Thread.currentThread().getId();
-        WalkFence x = Due.on("slope 3 by 8;fence a row 1 age 0;fence b row 2 age 0;tide 50;walks steep+age/4;roots left<2;");
         int[] text = Due.words(Due.bytesOf("total row 0+fiel    "));
         long sum = 0;
-        long before = bean.getThreadAllocatedBytes(thread);
-        for (int k = 0; k < 1000; k++) {
-            sum += everyCall(x, text, k);
+        long made = 0;
+        for (int object = 0; object < 100; object++) {
+            WalkFence x = Due.on("slope 3 by 8;fence a row 1 age 0;fence b row 2 age 0;tide 50;walks steep+age/4;roots left<2;");
+            long before = bean.getThreadAllocatedBytes(thread);
+            for (int k = 0; k < 14; k++) {
+                sum += everyCall(x, text, k);
+            }
+            made += bean.getThreadAllocatedBytes(thread) - before;
         }
-        long made = bean.getThreadAllocatedBytes(thread) - before;
         Due.is("calls make nothing (" + sum % 2 + ")", made < 20000, true);
     }
 

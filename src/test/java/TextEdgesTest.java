@@ -17,6 +17,7 @@ final class TextEdgesTest {
         tapeIsBehind();
         endOfTape();
         endLeavesTheFirst();
+        cutOffBytes();
         tapeGoes();
         longestText();
         noStatement();
@@ -43,6 +44,7 @@ final class TextEdgesTest {
         endsTooSoon();
         firstAlongTheText();
         partsOfWalksAndRoots();
+        slopeBehindQuestion();
         sixOpen();
         openByMinAndMax();
         notUntilItsFactEnds();
@@ -144,6 +146,27 @@ final class TextEdgesTest {
         x.feed(0, 0, 0, 0, 0);
         Due.is("end(0)", x.end(0), true);
         Due.is("an empty tape", x.feed(0, 0, 0, 0, 0), 20);
+    }
+
+    /** What was cut off, or on the tape of an earlier text, must not come back behind the last byte. */
+    private static void cutOffBytes() {
+        Due.about("promise 3: the tape has its first n bytes alone, words and numbers end there");
+        String text = "slope 3 by 8;fence abc row 7 age 99;";
+        int[] words = Due.words(Due.bytesOf(text));
+        // For each length the place of its FAULT 1; 0 stands for a right text.
+        int[] faults = {0, 0, 0, 0, 0, 5, 6, 7, 8, 8, 10, 11, 12, 0, 13, 13, 13, 13, 18, 19, 20, 21, 22, 23, 23, 23, 26, 27,
+            28, 29, 29, 29, 32, 33, 34, 35, 0};
+        for (int n = 0; n <= text.length(); n++) {
+            WalkFence x = new WalkFence();
+            for (int k = 0; k < words.length; k += 5) {
+                x.feed(words[k], words[k + 1], words[k + 2], words[k + 3], words[k + 4]);
+            }
+            Due.is("end(" + n + ")", x.end(n), true);
+            int statements = n == text.length() ? 2 : n == 13 ? 1 : NONE;
+            Due.is("slope() of the first " + n, x.slope(), statements);
+            Due.is("fault(0) of the first " + n, x.fault(0), statements == NONE ? 1 : 0);
+            Due.is("fault(1) of the first " + n, x.fault(1), statements == NONE ? faults[n] : NONE);
+        }
     }
 
     private static void tapeGoes() {
@@ -637,6 +660,24 @@ final class TextEdgesTest {
         behind("walks all;", 1, 6);
         behind("walks not 1;", 1, 6);
         behind("walks [1];", 1, 6);
+    }
+
+    private static void slopeBehindQuestion() {
+        Due.about("terms I: what is PART of a QUESTION is none of a SLOPE, also behind a QUESTION");
+        String[] lines = {"walks row 1;", "walks below 1;", "walks number;", "walks left;", "roots row 1<2;", "roots below 1<2;",
+            "roots field<2;", "roots row<2;"};
+        int[] at = {10, 6, 6, 6, 6, 6, 6, 6};
+        WalkFence x = Due.on(HEAD + FENCE + "walks row;roots left<1;");
+        for (int k = 0; k < lines.length; k++) {
+            Due.answers(x, "total row 1+below 0", 0);
+            Due.is("slope() with " + lines[k], Due.slope(x, HEAD + lines[k]), NONE);
+            Due.is("fault(0) with " + lines[k], x.fault(0), 1);
+            Due.is("fault(1) with " + lines[k], x.fault(1), 13 + at[k]);
+        }
+        Due.is("walks row", Due.slope(x, HEAD + FENCE + "roots left<1;walks row+2;"), 4);
+        Due.is("by its row", x.walks(0, 0), 2);
+        Due.askFault(x, "total steep", 1, 6);
+        Due.askFault(x, "total row", 1, 9);
     }
 
     private static void sixOpen() {

@@ -36,7 +36,9 @@ final class YearEdgesTest {
         belowTide();
         drawOfFencesAndColumns();
         drawsAreMade();
+        tideInRowZero();
         undoLast();
+        undoKept();
         undoTwenty();
         undoNone();
         seedEdges();
@@ -413,6 +415,10 @@ final class YearEdgesTest {
         WalkFence none = Due.on("slope 1 by 4;fence f row 3 age 9;roots left=0;");
         Due.is("the last one goes", none.years(1), 1);
         Due.is("SET with none left", none.stake(0, 0), 0);
+        // The SUM of walks asks the last column last, and the TEST asks column 0 still.
+        WalkFence steep = Due.on("slope 3 by 30;steep 0 4;steep 1 5;steep 2 6;fence f row 0 age 0;walks steep;roots steep=4;");
+        steep.years(1);
+        Due.is("steep of column 0", steep.fence(0, 0), 0);
         WalkFence last = Due.onYear("slope 1 by 4;fence f row 0 age 9;roots year>997;", 997);
         last.years(1);
         Due.is("YEAR 997", last.fence(0, 0), 10);
@@ -643,6 +649,48 @@ final class YearEdgesTest {
                 Due.slope(x, "slope 6 by 4;walks 0;tide 100;fence a row 3 age 5;");
                 Due.is("a tide", x.chance(1), 1);
                 Due.is("the seed behind it", x.kept(0, 2), drawn(next(next(next(seed))), 6));
+            }
+        }
+    }
+
+    private static void tideInRowZero() {
+        Due.about("terms II: that stake is GONE, in row 0 and in the last row, on a POST, of a FENCE that is CUT");
+        int[] rows = {0, 1, 2, 3};
+        for (int row : rows) {
+            WalkFence x = Due.on("slope 1 by 4;iron 0 1;fence a row " + row + " age 0;walks 0;tide 100;");
+            x.cut(0);
+            Due.is("chance(1)", x.chance(1), 1);
+            Due.is("row " + row, x.stake(0, 0), NONE);
+            same(x, new int[][] {{0, 0, 0}});
+            Due.is("a tide more", x.chance(1), 1);
+            same(x, new int[][] {{0, 0, 0}});
+        }
+    }
+
+    private static void undoKept() {
+        Due.about("promise 28: undone, what is KEPT is as it was ahead of the ACT");
+        int[] first = {0, 1, 39, 40, 41, 77, 100};
+        int[] then = {1, 39, 40, 41, 100};
+        for (int n : first) {
+            for (int more : then) {
+                WalkFence x = Due.on("slope 1 by 4;fence f row 3 age 0;walks 0;roots all;");
+                if (n > 0) {
+                    x.years(n);
+                }
+                x.years(more);
+                x.iron(0, 0);
+                Due.is("KEPT", x.has(8), Math.min(40, n + more));
+                Due.is("undo()", x.undo(), true);
+                Due.is("KEPT", x.has(8), Math.min(40, n + more));
+                Due.is("undo()", x.undo(), true);
+                int told = Math.min(40, n);
+                Due.is("KEPT", x.has(8), told);
+                for (int k = 0; k < told; k++) {
+                    Due.is("YEAR of " + k, x.kept(k, 0), n - told + k);
+                }
+                Due.is("no more", x.kept(told, 0), NONE);
+                x.years(1);
+                Due.is("KEPT behind it", x.kept(Math.min(39, told), 0), n);
             }
         }
     }
