@@ -28,6 +28,7 @@ final class AheadEdgesTest {
         restEdges();
         restFewest();
         restNone();
+        behindALargerSlope();
         seeEdges();
         seeRows();
         fitsEdges();
@@ -357,6 +358,41 @@ final class AheadEdgesTest {
         }
     }
 
+    /** What was AHEAD of a larger SLOPE is nothing to the next one. */
+    private static void behindALargerSlope() {
+        Due.about("promises 4, 13 to 22: behind a larger SLOPE");
+        String two = "slope 1 by 6;steep 0 2;fence a row 2 age 0;fence b row 2 age 0;";
+        WalkFence y = Due.on(two);
+        for (int asked = 0; asked < 6; asked++) {
+            WalkFence x = Due.on("slope 6 by 30;iron 0 2;iron 0 4;iron 5 3;fence a row 0 age 1;fence b row 1 age 1;fence c row 2 age 1;"
+                    + "fence d row 3 age 1;fence e row 4 age 1;fence f row 3 age 1;walks 0;");
+            ask(x, asked);
+            Due.slope(x, two);
+            Due.is("rest(1) behind " + asked, x.rest(1), y.rest(1));
+            Due.is("fits(0) behind " + asked, x.fits(0), y.fits(0));
+            for (int what = 0; what < 3; what++) {
+                Due.is("later behind " + asked, x.later(1, 1, what), y.later(1, 1, what));
+                Due.is("irons behind " + asked, x.irons(1, 1, what), y.irons(1, 1, what));
+                Due.is("tells behind " + asked, x.tells(what), y.tells(what));
+            }
+            Due.is("whose behind " + asked, x.whose(0, 5, 2), y.whose(0, 5, 2));
+            Due.is("sets behind " + asked, x.sets(1, 2, 1), y.sets(1, 2, 1));
+            Due.is("meets behind " + asked, x.meets(1, 0), y.meets(1, 0));
+            Due.is("MOOR behind " + asked, x.has(7), y.has(7));
+        }
+    }
+
+    private static void ask(WalkFence x, int which) {
+        switch (which) {
+            case 0: x.later(0, 0, 0); break;
+            case 1: x.rest(1); break;
+            case 2: x.irons(1, 1, 0); break;
+            case 3: x.tells(0); break;
+            case 4: x.sets(1, 2, 0); break;
+            default: x.meets(0, 1); break;
+        }
+    }
+
     private static void restNone() {
         Due.about("promise 19: NONE when no set is");
         String coast = "slope 3 by 8;steep 0 2;steep 2 0;iron 1 5;fence ann row 0 age 3;fence bob row 2 age 0;"
@@ -492,6 +528,12 @@ final class AheadEdgesTest {
         Due.is("of six: column", many.tells(0), 1);
         Due.is("of six: row", many.tells(1), 25);
         Due.is("of six: left", many.tells(2), 5);
+        // The 6th FENCE alone stands: row r is its for r YEARS, then MOOR.
+        WalkFence sixth = Due.on("slope 1 by 30;fence a row 29 age 0;fence b row 29 age 0;fence c row 29 age 0;fence d row 29 age 0;"
+                + "fence e row 29 age 0;fence f row 0 age 0;");
+        sixth.years(1);
+        Due.is("the 6th alone: row", sixth.tells(1), 15);
+        Due.is("the 6th alone: left", sixth.tells(2), 16);
         // Behind 0, 1, 2 row 3 is of g, f, f, then MOOR, for 28 of them; row 2 is MOOR for 29.
         WalkFence three = Due.on("slope 1 by 4;fence f row 1 age 0;fence g row 3 age 0;");
         Due.sees(three, 0, 0, 255);

@@ -34,6 +34,7 @@ final class YearEdgesTest {
         yearsEdges();
         chanceEdges();
         belowTide();
+        leastAndGreatestDraw();
         drawOfFencesAndColumns();
         drawsAreMade();
         tideInRowZero();
@@ -603,6 +604,30 @@ final class YearEdgesTest {
                 Due.is("tide " + tide + " by " + draw, x.chance(1), draw < tide ? 1 : 0);
                 Due.is("stakes", x.has(5), draw < tide ? 0 : 1);
             }
+        }
+    }
+
+    /** The least and the greatest that a DRAW of 100 gives. */
+    private static void leastAndGreatestDraw() {
+        Due.about("terms I, II: a DRAW of 0 is not below tide 0, nor without one; a DRAW of 99 is below tide 100 alone");
+        int least = 0;
+        int greatest = 0;
+        while (drawn(next(least), 100) != 0) {
+            least++;
+        }
+        while (drawn(next(greatest), 100) != 99) {
+            greatest++;
+        }
+        String[] tides = {"", "tide 0;", "tide 1;", "tide 99;", "tide 100;"};
+        int[] byLeast = {0, 0, 1, 1, 1};
+        int[] byGreatest = {0, 0, 0, 0, 1};
+        for (int k = 0; k < tides.length; k++) {
+            WalkFence x = Due.on("slope 1 by 4;fence a row 3 age 5;walks 0;" + tides[k]);
+            x.seed(least);
+            Due.is("a DRAW of 0 by " + tides[k], x.chance(1), byLeast[k]);
+            WalkFence y = Due.on("slope 1 by 4;fence a row 3 age 5;walks 0;" + tides[k]);
+            y.seed(greatest);
+            Due.is("a DRAW of 99 by " + tides[k], y.chance(1), byGreatest[k]);
         }
     }
 
